@@ -19,6 +19,9 @@ public final class AntiDesk {
     // A term is written with at most 30 characters, as -10000000000/100000x^-12e(-9x) would be.
     private static final int MOST_WRITTEN = 30 * MOST_TERMS;
 
+    // Never typed, as a byte 0 is no character.
+    private static final char END = 0;
+
     private static final int PLAIN = 0;
     private static final int LOG = 1;
     private static final int EXP = 2;
@@ -230,9 +233,8 @@ public final class AntiDesk {
             return length;
         }
 
-        // Character 0 is never typed, so it can stand for the end.
         char charAt(int i) {
-            return i >= 0 && i < length ? characters[i] : 0;
+            return i >= 0 && i < length ? characters[i] : END;
         }
     }
 
@@ -479,7 +481,7 @@ public final class AntiDesk {
                     return fault;
                 }
                 full = full || !addTerm();
-                if (next() == 0) {
+                if (next() == END) {
                     break;
                 }
                 below = takes('-');
@@ -503,13 +505,14 @@ public final class AntiDesk {
             power = 0;
             kind = PLAIN;
             argument = 0;
-            int start = skipBlanks();
-            boolean good = readCoefficient() && readPower() && readFunction();
-            if (good && at == start) {
-                good = refuse(SIGN, at);
+            // Blanks before the term are no part of it.
+            next();
+            int start = at;
+            if (!readCoefficient() || !readPower() || !readFunction()) {
+                return false;
             }
             top = below ? -top : top;
-            return good;
+            return at > start || refuse(SIGN, at);
         }
 
         private boolean readCoefficient() {
@@ -588,6 +591,7 @@ public final class AntiDesk {
             }
             int first = at;
             int number = 0;
+            // Not by next(), as a blank ends a number.
             for (int i = 0; i < MOST_DIGITS && isDigit(line.charAt(at)); i++) {
                 number = 10 * number + (line.charAt(at) - '0');
                 at++;
@@ -612,14 +616,10 @@ public final class AntiDesk {
         }
 
         private char next() {
-            return line.charAt(skipBlanks());
-        }
-
-        private int skipBlanks() {
-            while (at < line.length() && line.charAt(at) == ' ') {
+            while (at < line.length && line.characters[at] == ' ') {
                 at++;
             }
-            return at;
+            return at < line.length ? line.characters[at] : END;
         }
 
         private boolean refuse(int why, int where) {
@@ -778,17 +778,17 @@ public final class AntiDesk {
         static void putProduct(Sum to, Sum a, Sum b) {
             for (int i = 0; i < a.size(); i++) {
                 for (int k = 0; k < b.size(); k++) {
-                    putPair(to, a, i, b, k);
+                    if (isWave(a.kindAt(i)) && isWave(b.kindAt(k))) {
+                        putWaves(to, a, i, b, k);
+                    } else {
+                        putJoined(to, a, i, b, k);
+                    }
                 }
             }
         }
 
-        private static void putPair(Sum to, Sum a, int i, Sum b, int k) {
-            if (isWave(a.kindAt(i)) && isWave(b.kindAt(k))) {
-                putWaves(to, a, i, b, k);
-                return;
-            }
-            // A plain term has argument 0 and the least kind, so this serves it, too.
+        // A plain term has argument 0 and the least kind, so this serves it, too.
+        private static void putJoined(Sum to, Sum a, int i, Sum b, int k) {
             to.put(Math.max(a.kindAt(i), b.kindAt(k)), a.argumentAt(i) + b.argumentAt(k),
                     a.powerAt(i) + b.powerAt(k), a.topAt(i) * b.topAt(k),
                     a.bottomAt(i) * b.bottomAt(k));

@@ -34,6 +34,7 @@ public final class LineTest {
         Check.equal("high bytes", desk.type(-1, 0x80000000, 0, 0, 0x00ff0080), 7);
         Check.equal("read", desk.read(0), AntiDesk.SIGN);
         Check.equal("place", desk.place(), 0);
+        Check.equal("bytes 1", desk.type(0x01010101, 1, 1 << 8, 1 << 16, 1 << 24), 15);
     }
 
     private static void limit() {
