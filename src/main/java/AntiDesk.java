@@ -238,7 +238,7 @@ public final class AntiDesk {
         }
     }
 
-    /** Terms in their order, each function and power once, no coefficient 0, all in lowest terms. */
+    /** Terms in their order, each function and power once, none with 0, all in lowest terms. */
     private static final class Sum {
         private static final long MOST_TOP = 10_000_000_000L;
         private static final long MOST_BOTTOM = 100_000L;
@@ -768,7 +768,8 @@ public final class AntiDesk {
         }
 
         private static boolean canMeet(int kind, int other) {
-            return kind == other || kind == PLAIN || other == PLAIN || isWave(kind) && isWave(other);
+            return kind == other || kind == PLAIN || other == PLAIN
+                    || isWave(kind) && isWave(other);
         }
 
         private static boolean isWave(int kind) {

@@ -46,6 +46,7 @@ public final class LineTest {
         Check.equal("100", desk.type(blanks, blanks, blanks, blanks, blanks >>> 8), 100);
         Check.equal("none more", desk.type(0, 0, 0, 0, 0), 100);
         Check.throwsState("one more", () -> desk.type(0, 0, 0, 0, 'x'));
+        Check.throwsState("one more, a byte 1", () -> desk.type(1, 0, 0, 0, 0));
         Check.equal("erase", desk.erase(), 100);
     }
 

@@ -75,6 +75,8 @@ public final class ReadTest {
         refuses(" x  y", AntiDesk.SIGN, 4);
         refuses("\tx", AntiDesk.SIGN, 0);
         refuses("X", AntiDesk.SIGN, 0);
+        refuses("x\u0001", AntiDesk.SIGN, 1);
+        refuses("x\u00a0", AntiDesk.SIGN, 1);
         refuses("x^+2", AntiDesk.SIGN, 2);
         refuses("x^--2", AntiDesk.SIGN, 3);
         refuses("x^- ", AntiDesk.SIGN, 4);
