@@ -1,14 +1,27 @@
 /** What the tests share: counting wrong answers, and telling texts to a desk and reading its own. */
 final class Check {
     private static int wrong = 0;
+    private static String sentence = "";
 
     private Check() {
+    }
+
+    /** A test of its own for one sentence of the document, whose words are told with what is wrong. */
+    static void sentence(String words, Runnable test) {
+        sentence = "\"" + words + "\": ";
+        try {
+            test.run();
+        } catch (RuntimeException e) {
+            wrong++;
+            System.out.println(sentence + "ended with " + e);
+        }
+        sentence = "";
     }
 
     static void equal(String what, Object got, Object due) {
         if (!got.equals(due)) {
             wrong++;
-            System.out.println(what + " answered " + got + ", due is " + due);
+            System.out.println(sentence + what + " answered " + got + ", due is " + due);
         }
     }
 
@@ -78,11 +91,47 @@ final class Check {
         return text.toString();
     }
 
+    /** A line that can be read, and how its sum is written. */
+    static void reads(String line, String due) {
+        AntiDesk desk = new AntiDesk();
+        int count = read(desk, 3, line);
+        equal(line, written(desk, 3), due);
+        equal(line + ": count", count, desk.terms(3));
+        equal(line + ": place", desk.place(), AntiDesk.NONE);
+    }
+
+    /** A line that cannot be read, why, and where. */
+    static void refuses(String line, int why, int place) {
+        AntiDesk desk = desk("7x");
+        equal(line, read(desk, 0, line), why);
+        equal(line + ": place", desk.place(), place);
+        equal(line + ": slot", written(desk, 0), "7x");
+    }
+
+    /** Numerator, denominator, kind, k or n, and power of a term. */
+    static void isTerm(AntiDesk desk, int slot, int i, long... parts) {
+        for (int what = 0; what < 5; what++) {
+            equal("term " + i + " of " + slot + ", part " + what, desk.term(slot, i, what), parts[what]);
+        }
+    }
+
     /** Adds sums, one after the other, up in a slot; the other slot is for use on the way. */
     static void gather(AntiDesk desk, int slot, int other, String... sums) {
         for (String sum : sums) {
             if (read(desk, other, sum) < 0 || desk.add(slot, slot, other, 1, 1) < 0) {
                 throw new IllegalArgumentException("a test's own sum: " + sum);
+            }
+        }
+    }
+
+    /** Makes a slot so many times a sum, by doubling; the other slot is for use on the way. */
+    static void grow(AntiDesk desk, int slot, int other, String sum, long size) {
+        read(desk, other, sum);
+        desk.add(slot, slot, slot, -1, 1);
+        for (int bit = 63 - Long.numberOfLeadingZeros(size); bit >= 0; bit--) {
+            desk.add(slot, slot, slot, 1, 1);
+            if ((size >> bit & 1) == 1) {
+                desk.add(slot, slot, other, 1, 1);
             }
         }
     }

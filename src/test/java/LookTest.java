@@ -34,23 +34,17 @@ public final class LookTest {
         Check.equal("never told", desk.terms(7), 0);
     }
 
-    private static void isTerm(AntiDesk desk, int i, long... parts) {
-        for (int what = 0; what < 5; what++) {
-            Check.equal("term " + i + " part " + what, desk.term(5, i, what), parts[what]);
-        }
-    }
-
     private static void term() {
         AntiDesk desk = new AntiDesk();
         Check.read(desk, 5, "4c(7x)-3/9x^-12s(2x)+x^3e(-9x)-l^2+x^12-6/4x^-1+100");
-        isTerm(desk, 0, 1, 1, 0, 0, 12);
-        isTerm(desk, 1, 100, 1, 0, 0, 0);
-        isTerm(desk, 2, -3, 2, 0, 0, -1);
-        isTerm(desk, 3, -1, 1, 1, 2, 0);
-        isTerm(desk, 4, 1, 1, 2, -9, 3);
-        isTerm(desk, 5, -1, 3, 3, 2, -12);
-        isTerm(desk, 6, 4, 1, 4, 7, 0);
-        isTerm(desk, 7, 0, 0, 0, 0, 0);
+        Check.isTerm(desk, 5, 0, 1, 1, 0, 0, 12);
+        Check.isTerm(desk, 5, 1, 100, 1, 0, 0, 0);
+        Check.isTerm(desk, 5, 2, -3, 2, 0, 0, -1);
+        Check.isTerm(desk, 5, 3, -1, 1, 1, 2, 0);
+        Check.isTerm(desk, 5, 4, 1, 1, 2, -9, 3);
+        Check.isTerm(desk, 5, 5, -1, 3, 3, 2, -12);
+        Check.isTerm(desk, 5, 6, 4, 1, 4, 7, 0);
+        Check.isTerm(desk, 5, 7, 0, 0, 0, 0, 0);
     }
 
     private static void none() {

@@ -188,7 +188,10 @@ final class Model {
         if (m < 0) {
             return put(s.kind(), n, m + 1, r.by(1, m + 1));
         }
-        return s.kind() == 2 ? put(2, n, m, r.by(1, n)) : s.kind() == 3 ? put(4, n, m, r.by(-1, n)) : put(3, n, m, r.by(1, n));
+        if (s.kind() == 2) {
+            return put(2, n, m, r.by(1, n));
+        }
+        return s.kind() == 3 ? put(4, n, m, r.by(-1, n)) : put(3, n, m, r.by(1, n));
     }
 
     String written() {

@@ -5,7 +5,6 @@ public final class WriteTest {
         order();
         lengths();
         outputStays();
-        longest();
         wrongSlots();
         Check.finish();
     }
@@ -67,25 +66,6 @@ public final class WriteTest {
         desk.add(0, 0, 1, 1, 1);
         desk.erase();
         Check.equal("length kept", "" + desk.output(0) + desk.output(1) + desk.output(2) + desk.output(3), "x^2 ");
-    }
-
-    // Forty terms, each as long as a line can make it.
-    private static void longest() {
-        AntiDesk desk = new AntiDesk();
-        StringBuilder due = new StringBuilder();
-        for (int n = 9; n >= 6; n--) {
-            for (int power = 12; power > 2; power--) {
-                String term = "-997/998x^-" + (power < 10 ? "0" : "") + power + "e(-" + n + "x)";
-                Check.gather(desk, 0, 1, term);
-            }
-        }
-        for (int n = 9; n >= 6; n--) {
-            for (int power = 3; power <= 12; power++) {
-                due.append("-997/998x^-").append(power).append("e(-").append(n).append("x)");
-            }
-        }
-        Check.equal("forty", desk.terms(0), 40);
-        Check.equal("written", Check.written(desk, 0), due.toString());
     }
 
     private static void wrongSlots() {
